@@ -1454,13 +1454,13 @@ public final class EngineMonastery {
         /** Reads the text into commands and returns NONE, or the error position if it is no command text. */
         int read() {
             int start = 0;
-            for (commands = 0; commands < MOST_COMMANDS; ) {
-                int error = readCommand(start);
+            for (int command = 0; command < MOST_COMMANDS; command++) {
+                int error = readCommand(command, start);
                 if (error != NONE) {
                     return error;
                 }
-                commands++;
-                if (at == length) {
+                commands = command + 1;
+                if (at >= length) {
                     return NONE;
                 }
                 if (characters[at] != ';') {
@@ -1472,12 +1472,12 @@ public final class EngineMonastery {
         }
 
         /** Reads one command, so that at stands behind it, and returns NONE or the error position. */
-        private int readCommand(int start) {
+        private int readCommand(int command, int start) {
             int furthest = start;
             for (int kind = 0; kind < KINDS; kind++) {
                 at = start;
-                if (fits(formOf(kind))) {
-                    kinds[commands] = kind;
+                if (fits(formOf(kind), command * MOST_NUMBERS)) {
+                    kinds[command] = kind;
                     return NONE;
                 }
                 furthest = Math.max(furthest, at);
@@ -1485,9 +1485,9 @@ public final class EngineMonastery {
             return furthest;
         }
 
-        /** Moves on as far as the text has this form and keeps its numbers; whether all of it was there. */
-        private boolean fits(String form) {
-            int slot = commands * MOST_NUMBERS;
+        /** Moves on as far as the text has this form and keeps its numbers from a slot on; whether all was there. */
+        private boolean fits(String form, int firstSlot) {
+            int slot = firstSlot;
             for (int sign = 0; sign < form.length(); sign++) {
                 char expected = form.charAt(sign);
                 if (expected == '#' || expected == '%') {

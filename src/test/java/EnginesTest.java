@@ -183,6 +183,7 @@ public final class EnginesTest {
         Checks.due("12: five, by steps of two", 2, () -> ordered(0, 2, 4, 1, 3).evenness(0));
         Checks.due("12: eight, by steps of three", 3, () -> ordered(0, 3, 6, 1, 4, 7, 2, 5).evenness(0));
         Checks.due("12: six, 2 3 2 2 3 2", 2, () -> ordered(0, 2, 5, 3, 1, 4).evenness(0));
+        Checks.due("12: only the first two are near", 1, () -> ordered(0, 1, 3, 5, 2, 4).evenness(0));
         Checks.due("12: the last place leads to place 0", 1, () -> ordered(0, 2, 4, 6, 1, 3, 5, 7).evenness(0));
         Checks.due("12: seven, by steps of three", 3, () -> ordered(0, 3, 6, 2, 5, 1, 4).evenness(0));
         Checks.index("12: engine 1", () -> with(3).evenness(1));

@@ -5,6 +5,7 @@ public final class OilTest {
         oil();
         oilDriest();
         leastOilAfter();
+        manyLevels();
         buyOil();
         oilOfAndWearOf();
         accounts();
@@ -109,6 +110,20 @@ public final class OilTest {
             Checks.argument("19: " + wrong, () -> m.leastOilAfterByGiving(wrong));
             Checks.argument("18: first " + wrong, () -> empty.leastOilAfter(wrong));
             Checks.argument("19: first " + wrong, () -> empty.leastOilAfterByGiving(wrong));
+        }
+    }
+
+    /** The 32 cylinders have 5, 6 and so on up to 36 units: 496 units fill all up to 36. */
+    private static void manyLevels() {
+        EngineMonastery m = with(8, 8, 8, 8);
+        for (int cylinder = 1; cylinder < 32; cylinder++) {
+            m.buyOil(cylinder);
+            m.oil(cylinder / 8, cylinder % 8, cylinder);
+        }
+        int[][] due = {{0, 5}, {1, 6}, {2, 6}, {3, 7}, {495, 35}, {496, 36}, {527, 36}, {528, 37}, {999, 51}};
+        for (int[] pair : due) {
+            Checks.due("18: many levels, after " + pair[0], pair[1], () -> m.leastOilAfter(pair[0]));
+            Checks.due("19: many levels, after " + pair[0], pair[1], () -> m.leastOilAfterByGiving(pair[0]));
         }
     }
 
