@@ -3,6 +3,7 @@ import java.lang.reflect.Method;
 import java.lang.reflect.Modifier;
 import java.util.ArrayList;
 import java.util.Arrays;
+import java.util.Collections;
 import java.util.Comparator;
 import java.util.List;
 import java.util.Random;
@@ -10,7 +11,9 @@ import java.util.Random;
 /** Long runs of chosen calls, the same ones each time, on the class and on the model: all answers are equal. */
 public final class ModelTest {
     private static final int RUNS = 400;
+    // The document promises nothing about later calls.
     private static final int CALLS = 512;
+    private static final int QUESTIONS = 160;
     private static final String[] COMMANDS = {
         "engine 3", "engine 4", "engine 8", "swap 0 12", "swap 1 02", "rate 0=4", "rate 1=9", "rate 2=1",
         "run 0*9", "run 1*40", "run 0*99", "oil 0.1+5", "oil 1.0+12", "fill 7", "fill 30", "buy 25", "buy 9",
@@ -32,14 +35,16 @@ public final class ModelTest {
         System.out.println(RUNS + " runs of " + CALLS + " calls are alike");
     }
 
+    /** Every other run ends with questions alone, so that no part of the state is left out. */
     private static boolean isAlike(int run) {
+        int questions = run % 2 * QUESTIONS;
         Random chosen = new Random(run);
         EngineMonastery monastery = new EngineMonastery();
         Model model = new Model();
         List<Method> methods = faceMethods();
         List<String> trace = new ArrayList<>();
         String commands = "";
-        for (int call = 0; call < CALLS; call++) {
+        for (int call = 0; call < CALLS - questions; call++) {
             Method method;
             Object[] parameters;
             if (commands.isEmpty() && chosen.nextInt(60) == 0) {
@@ -64,27 +69,46 @@ public final class ModelTest {
                 return false;
             }
         }
-        return everythingIsAlike(run, monastery, model, methods);
+        return questionsAreAlike(run, monastery, model, questions(methods, chosen).subList(0, questions));
     }
 
-    /** Asks at the end for whatever can be asked, so that no part of the state is left out. */
-    private static boolean everythingIsAlike(int run, Object monastery, Object model, List<Method> methods) {
+    private static final class Question {
+        final Method method;
+        final Object[] parameters;
+
+        Question(Method method, Object[] parameters) {
+            this.method = method;
+            this.parameters = parameters;
+        }
+    }
+
+    /** All that can be asked about the state, in a chosen order. */
+    private static List<Question> questions(List<Method> methods, Random chosen) {
+        List<Question> questions = new ArrayList<>();
         for (Method method : methods) {
             if (!method.getName().matches(".*(Count|At|Of|In|Rank|Period|allOil|hour|Done|Knocks|Command|Position)")) {
                 continue;
             }
-            int first = method.getParameterCount() > 0 ? 32 : 1;
-            int second = method.getParameterCount() > 1 ? 25 : 1;
+            int count = method.getParameterCount();
+            int first = count > 1 ? 6 : count > 0 ? 40 : 1;
+            int second = count > 1 ? 26 : 1;
             for (int parameter = 0; parameter < first * second; parameter++) {
                 Object[] parameters = new Object[] {parameter / second - 1, parameter % second - 1};
-                parameters = Arrays.copyOf(parameters, method.getParameterCount());
-                Object got = answer(monastery, method, parameters);
-                Object due = answer(model, method, parameters);
-                if (!got.equals(due)) {
-                    System.out.println("run " + run + " at its end: " + method.getName()
-                            + Arrays.toString(parameters) + " = " + got + ", due is " + due);
-                    return false;
-                }
+                questions.add(new Question(method, Arrays.copyOf(parameters, count)));
+            }
+        }
+        Collections.shuffle(questions, chosen);
+        return questions;
+    }
+
+    private static boolean questionsAreAlike(int run, Object monastery, Object model, List<Question> questions) {
+        for (Question question : questions) {
+            Object got = answer(monastery, question.method, question.parameters);
+            Object due = answer(model, question.method, question.parameters);
+            if (!got.equals(due)) {
+                System.out.println("run " + run + " at its end: " + question.method.getName()
+                        + Arrays.toString(question.parameters) + " = " + got + ", due is " + due);
+                return false;
             }
         }
         return true;

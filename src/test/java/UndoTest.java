@@ -243,16 +243,21 @@ public final class UndoTest {
         Checks.due("58: its last engine", 6, () -> m.cylinderCount(2));
     }
 
-    private static void everythingIsSaved() {
+    /** Saved, and then changed in many ways. */
+    private static EngineMonastery savedAndChanged() {
         EngineMonastery m = busy();
-        String saved = stateOf(m);
         m.save();
         write(m, "engine 8;run 2*44;run 1*30;oil 0.0+3;fill 8;buy 4;monk");
         m.execute();
         write(m, "able 22;able 03;mend 2 19;repair;swap 1 02;rate 0=9;pass 9");
         m.execute();
-        String later = stateOf(m);
-        Checks.due("58: much is different", false, () -> saved.equals(later));
+        return m;
+    }
+
+    private static void everythingIsSaved() {
+        String saved = stateOf(busy());
+        Checks.due("58: much is different", false, () -> saved.equals(stateOf(savedAndChanged())));
+        EngineMonastery m = savedAndChanged();
         m.restore();
         Checks.due("58: all is as it was", saved, () -> stateOf(m));
         Checks.due("58: the rate too", 3, () -> m.setRate(0, 3));
