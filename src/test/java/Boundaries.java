@@ -156,17 +156,20 @@ abstract class Boundaries {
     static EngineMonastery ordered(int... order) {
         EngineMonastery m = with(order.length);
         for (int place = 0; place < order.length; place++) {
-            m.exchange(0, place, placeOf(m, order[place]));
+            bring(m, order[place], place);
         }
         return m;
     }
 
-    private static int placeOf(EngineMonastery m, int cylinder) {
-        int place = 0;
-        while (m.orderAt(0, place) != cylinder) {
-            place++;
+    /** Brings a cylinder of engine 0 to a place, if it is not there. */
+    private static void bring(EngineMonastery m, int cylinder, int place) {
+        int from = 0;
+        while (m.orderAt(0, from) != cylinder) {
+            from++;
         }
-        return place;
+        if (from != place) {
+            m.exchange(0, place, from);
+        }
     }
 
     /** Engine 0 with four dry cylinders, which have knocked in this order. */
@@ -174,7 +177,7 @@ abstract class Boundaries {
         EngineMonastery m = with(4);
         m.run(0, 20);
         for (int count = 0; count < cylinders.length(); count++) {
-            m.exchange(0, count % 4, placeOf(m, cylinders.charAt(count) - '0'));
+            bring(m, cylinders.charAt(count) - '0', count % 4);
             m.run(0, 1);
         }
         return m;

@@ -5,7 +5,8 @@ import java.util.List;
 final class BoundariesOfCommands extends Boundaries {
     /** The forms of a command: '#' is a digit. */
     private static final String[] FORMS = {"engine #", "swap # ##", "rate #=#", "run #*#", "run #*##", "oil #.#+#",
-        "oil #.#+##", "fill #", "fill ##", "buy #", "buy ##", "monk", "able ##", "mend # ##", "repair", "pass #", "pass ##"};
+        "oil #.#+##", "fill #", "fill ##", "buy #", "buy ##", "monk", "able ##", "mend # ##", "repair", "pass #",
+        "pass ##"};
 
     private BoundariesOfCommands() {
     }
@@ -390,7 +391,8 @@ final class BoundariesOfCommands extends Boundaries {
 
         says("Throws `IllegalArgumentException` if the text is not a command text; the error position is set and the "
                 + "failed command is left as it is");
-        for (String text : new String[] {"", "x", "monk;", "buy 1;buy 123", "repair;x", "monk;".repeat(12), "engine :"}) {
+        String[] noCommands = {"", "x", "monk;", "buy 1;buy 123", "repair;x", "monk;".repeat(12), "engine :"};
+        for (String text : noCommands) {
             // The scene has the error position of this text already, so that nothing at all may differ.
             refused(ARGUMENT, () -> quiet(text, "buy 1;repair"), x -> executes(x, text));
             refused(ARGUMENT, () -> quiet(text, "monk"), x -> executes(x, text));

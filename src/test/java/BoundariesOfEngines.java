@@ -76,9 +76,9 @@ final class BoundariesOfEngines extends Boundaries {
         due(3, () -> with(3, 3, 3).addEngine(8));
         for (int cylinders = 3; cylinders <= 8; cylinders++) {
             int number = cylinders;
-            refused(STATE, FULL, m2 -> m2.addEngine(number));
+            refused(STATE, FULL, x -> x.addEngine(number));
         }
-        refused(STATE, () -> with(3, 4, 5, 6), m2 -> m2.addEngine(3));
+        refused(STATE, () -> with(3, 4, 5, 6), x -> x.addEngine(3));
     }
 
     private static void exchange() {

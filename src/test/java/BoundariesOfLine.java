@@ -1,3 +1,5 @@
+import java.util.Arrays;
+
 /** The boundary cases of promises 50 to 55. */
 final class BoundariesOfLine extends Boundaries {
     private BoundariesOfLine() {
@@ -32,6 +34,8 @@ final class BoundariesOfLine extends Boundaries {
         due("3:*0!1!2!3!4!5!6!7", () -> engineOf(m, 3));
         rotaOf(m);
         due("0:21*0", () -> engineOf(m, 0));
+        m.run(0, 12);
+        due("0:2!1!*0", () -> engineOf(m, 0));
 
         says("An example is \"0:02*1!3\".");
         EngineMonastery example = ordered(0, 2, 1, 3);
@@ -65,9 +69,9 @@ final class BoundariesOfLine extends Boundaries {
         due("0------5", () -> rotaOf(able("0", "", "", "", "", "7")));
         due("012345--", () -> rotaOf(able("0", "1", "2", "3", "4", "5")));
         due("---1-0--", () -> rotaOf(BUSY.make()));
+        due("012345--", () -> rotaOf(able("0", "01", "12", "23", "34", "45")));
         EngineMonastery m = FULL.make();
         m.describeEngine(0);
-        due("01234" + "5--", () -> rotaOf(able("0", "01", "12", "23", "34", "45")));
         due("0-12345-", () -> rotaOf(m));
 
         says("Returns the length of the line, 8.");
@@ -145,7 +149,7 @@ final class BoundariesOfLine extends Boundaries {
         due(0f, () -> able("", "").vigilShare());
         for (int monks = 1; monks <= 6; monks++) {
             float due = monks / 8f;
-            String[] some = java.util.Arrays.copyOf(vigils, monks);
+            String[] some = Arrays.copyOf(vigils, monks);
             due(due, () -> able(some).vigilShare());
         }
         due(0.125f, () -> able("01234567").vigilShare());
@@ -155,10 +159,10 @@ final class BoundariesOfLine extends Boundaries {
     private static void isConsistent() {
         under("Promise 55");
         says("Checks the invariants: for all engines turnOf() equals turnByRepeating(), evenOrders() equals "
-                + "evenOrdersByTrying() for the evenness 2, and knockPeriod() equals knockPeriodByTrying() if a knock is "
-                + "kept; leastOilAfter() equals leastOilAfterByGiving() for 0, 10 and 99 units if there are engines; "
-                + "mostVigils() equals mostVigilsByTable(); leastPenance() equals leastPenanceByTable(); and allOil() "
-                + "equals allOilByAccounts().");
+                + "evenOrdersByTrying() for the evenness 2, and knockPeriod() equals knockPeriodByTrying() if a knock "
+                + "is kept; leastOilAfter() equals leastOilAfterByGiving() for 0, 10 and 99 units if there are "
+                + "engines; mostVigils() equals mostVigilsByTable(); leastPenance() equals leastPenanceByTable(); and "
+                + "allOil() equals allOilByAccounts().");
         for (Scene scene : new Scene[] {EMPTY, BUSY, FULL, DRY, RESTORED}) {
             due(true, () -> scene.make().isConsistent());
             due(true, () -> Watch.changesNothing(scene, EngineMonastery::isConsistent));

@@ -183,8 +183,8 @@ final class BoundariesOfOil extends Boundaries {
     }
 
     /** The oil 3, 3, 4, 5, 5, 14, 5: two to 4, three to 5, then six at a time up to 14, then all seven. */
-    private static final int[][] LEAST_AFTER = {{0, 3}, {1, 3}, {2, 4}, {3, 4}, {4, 4}, {5, 5}, {10, 5}, {11, 6}, {58, 13},
-        {59, 14}, {65, 14}, {66, 15}, {998, 148}, {999, 148}};
+    private static final int[][] LEAST_AFTER = {{0, 3}, {1, 3}, {2, 4}, {3, 4}, {4, 4}, {5, 5}, {10, 5}, {11, 6},
+        {58, 13}, {59, 14}, {65, 14}, {66, 15}, {998, 148}, {999, 148}};
 
     private static EngineMonastery uneven() {
         EngineMonastery m = with(3, 4);
@@ -201,7 +201,7 @@ final class BoundariesOfOil extends Boundaries {
         for (int[] row : LEAST_AFTER) {
             due(row[1], () -> m.leastOilAfter(row[0]));
         }
-        due(11, m2 -> m2.leastOilAfter(20), m2 -> m2.oilDriest(20));
+        alike(11, x -> x.leastOilAfter(20), x -> x.oilDriest(20));
         due(5, () -> DRY.make().leastOilAfter(0));
         due(5, () -> DRY.make().leastOilAfter(1));
         due(6, () -> DRY.make().leastOilAfter(2));
@@ -223,8 +223,8 @@ final class BoundariesOfOil extends Boundaries {
         due(1, () -> dryOne().leastOilAfter(3));
     }
 
-    /** What the one answers on a new engine with three cylinders is what the other one answers. */
-    private static void due(int due, Act one, Act other) {
+    /** Both answer this on a new engine with three cylinders. */
+    private static void alike(int due, Act one, Act other) {
         due(due, () -> one.on(with(3)));
         due(due, () -> other.on(with(3)));
     }
@@ -242,7 +242,7 @@ final class BoundariesOfOil extends Boundaries {
         for (int[] row : LEAST_AFTER) {
             due(row[1], () -> m.leastOilAfterByGiving(row[0]));
         }
-        due(11, m2 -> m2.leastOilAfterByGiving(20), m2 -> m2.oilDriest(20));
+        alike(11, x -> x.leastOilAfterByGiving(20), x -> x.oilDriest(20));
         due(true, () -> Watch.changesNothing(BUSY, x -> x.leastOilAfterByGiving(999)));
         due(true, () -> Watch.changesNothing(FULL, x -> x.leastOilAfterByGiving(999)));
 

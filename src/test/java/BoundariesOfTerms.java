@@ -61,7 +61,8 @@ final class BoundariesOfTerms extends Boundaries {
         due(INDEX, () -> m.cylinderCount(4));
         due(INDEX, () -> m.cylinderCount(-1));
 
-        says("An engine has cylinders, numbered from 0, each of which has oil, initially 5 units, and a wear, initially 0.");
+        says("An engine has cylinders, numbered from 0, each of which has oil, initially 5 units, and a wear, "
+                + "initially 0.");
         for (int cylinders = 3; cylinders <= 8; cylinders++) {
             EngineMonastery one = with(cylinders);
             int count = cylinders;

@@ -1,3 +1,4 @@
+import java.lang.reflect.InvocationTargetException;
 import java.lang.reflect.Method;
 import java.lang.reflect.Modifier;
 import java.util.ArrayList;
@@ -27,7 +28,7 @@ final class BoundariesOfUndo extends Boundaries {
         CHANGES.put("removeRepair", m -> m.removeRepair(0));
         CHANGES.put("repair", EngineMonastery::repair);
         CHANGES.put("pass", m -> m.pass(48));
-        CHANGES.put("execute", m -> executes(m, "nk;repair;run 1*50;fill 3"));
+        CHANGES.put("execute", m -> executes(m, "nk;able 27;engine 8;run 2*60;mend 2 55;repair;fill 3"));
         under("Terms");
         changes();
         latestEight();
@@ -278,7 +279,7 @@ final class BoundariesOfUndo extends Boundaries {
     private static Object invoked(Method method, EngineMonastery m, Object[] parameters) {
         try {
             return method.invoke(m, parameters);
-        } catch (java.lang.reflect.InvocationTargetException thrown) {
+        } catch (InvocationTargetException thrown) {
             throw (RuntimeException) thrown.getCause();
         } catch (IllegalAccessException wrong) {
             throw new IllegalStateException(wrong);
@@ -425,12 +426,14 @@ final class BoundariesOfUndo extends Boundaries {
         return m.restore();
     }
 
-    /** Changed, saved, changed in all ways that are left, and restored. */
+    /** Changed, saved, changed in all ways but by execute, whose text would not be restored, and restored. */
     private static Object changedAndRestored(EngineMonastery m, Act change) {
         change.on(m);
         m.save();
-        for (Act other : CHANGES.values()) {
-            Checks.answerOf(() -> other.on(m));
+        for (String other : CHANGES.keySet()) {
+            if (!other.equals("execute")) {
+                CHANGES.get(other).on(m);
+            }
         }
         return m.restore();
     }
