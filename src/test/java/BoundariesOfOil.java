@@ -193,6 +193,20 @@ final class BoundariesOfOil extends Boundaries {
         return m;
     }
 
+    /** 32 cylinders with 36, 35 and so on down to 5 units: 496 units fill all up to 36. */
+    private static final int[][] LEAST_OF_MANY_AFTER = {{0, 5}, {1, 6}, {2, 6}, {3, 7}, {495, 35}, {496, 36}, {527, 36},
+        {528, 37}, {999, 51}};
+
+    private static EngineMonastery allDifferent() {
+        EngineMonastery m = with(8, 8, 8, 8);
+        for (int units = 31; units > 0; units--) {
+            int spot = 31 - units;
+            m.buyOil(units);
+            m.oil(spot / 8, spot % 8, units);
+        }
+        return m;
+    }
+
     private static void leastOilAfter() {
         under("Promise 18");
         says("Returns the least oil of a cylinder if some units were given by oilDriest(), however much the store "
@@ -200,6 +214,10 @@ final class BoundariesOfOil extends Boundaries {
         EngineMonastery m = uneven();
         for (int[] row : LEAST_AFTER) {
             due(row[1], () -> m.leastOilAfter(row[0]));
+        }
+        EngineMonastery many = allDifferent();
+        for (int[] row : LEAST_OF_MANY_AFTER) {
+            due(row[1], () -> many.leastOilAfter(row[0]));
         }
         alike(11, x -> x.leastOilAfter(20), x -> x.oilDriest(20));
         due(5, () -> DRY.make().leastOilAfter(0));
@@ -241,6 +259,10 @@ final class BoundariesOfOil extends Boundaries {
         EngineMonastery m = uneven();
         for (int[] row : LEAST_AFTER) {
             due(row[1], () -> m.leastOilAfterByGiving(row[0]));
+        }
+        EngineMonastery many = allDifferent();
+        for (int[] row : LEAST_OF_MANY_AFTER) {
+            due(row[1], () -> many.leastOilAfterByGiving(row[0]));
         }
         alike(11, x -> x.leastOilAfterByGiving(20), x -> x.oilDriest(20));
         due(true, () -> Watch.changesNothing(BUSY, x -> x.leastOilAfterByGiving(999)));
