@@ -962,11 +962,12 @@ public final class EngineMonastery {
         /** The least penance of a set that is done first: one of it is done last, when its hours are over. */
         private int leastOfSet(Repairs repairs, int set) {
             int end = hoursOf(repairs, set);
-            int least = Integer.MAX_VALUE;
+            int least = NONE;
             for (int last = 0; last < repairs.count; last++) {
                 int bit = 1 << last;
                 if ((set & bit) != 0) {
-                    least = Math.min(least, table[set - bit] + repairs.penances[last] * end);
+                    int penance = table[set - bit] + repairs.penances[last] * end;
+                    least = least == NONE ? penance : Math.min(least, penance);
                 }
             }
             return least;
@@ -1231,11 +1232,11 @@ public final class EngineMonastery {
         /** The driest cylinder, as its engine times 8 and itself. */
         private int driestSpot() {
             int spot = 0;
-            int least = Integer.MAX_VALUE;
+            int least = NONE;
             for (int engine = 0; engine < engineCount; engine++) {
                 int[] oil = engines[engine].oil;
                 for (int cylinder = 0; cylinder < engines[engine].cylinders; cylinder++) {
-                    if (oil[cylinder] < least) {
+                    if (least == NONE || oil[cylinder] < least) {
                         least = oil[cylinder];
                         spot = engine * MOST_CYLINDERS + cylinder;
                     }
